@@ -871,8 +871,7 @@ public final class LentSectors {
         int parse() {
             at = 0;
             commands = 0;
-            // One round more than there can be commands: a text may end behind its last ";".
-            for (int round = 0; round <= MOST_COMMANDS; round++) {
+            for (int round = 0; round < MOST_COMMANDS; round++) {
                 if (!takeCommand()) {
                     return at;
                 }
@@ -883,6 +882,7 @@ public final class LentSectors {
                     return at;
                 }
             }
+            // So many commands leave no room behind the last ";": the text ends too early.
             return at;
         }
 

@@ -8,6 +8,7 @@ public final class GivingTest {
         givesBackToNoGivenUpHead();
         givesUp();
         givesUpOneHeadAfterTheOther();
+        givesUpAllButEachHead();
         givesUpWhatIsLentToOthers();
         givesUpWithTheOwnHeadFirst();
         DUE.end();
@@ -123,6 +124,19 @@ public final class GivingTest {
         DUE.is("10: undo()", x.undo(), 2);
         DUE.is("10: head(3, 3)", x.head(3, 3), 0);
         DUE.is("10: giveUp(1)", x.giveUp(1), 16);
+    }
+
+    private static void givesUpAllButEachHead() {
+        for (int last = 0; last < 4; last++) {
+            LentSectors x = new LentSectors();
+            for (int head = 3; head >= 0; head--) {
+                if (head != last) {
+                    DUE.is("10: giveUp(" + head + ") >= 0, all but " + last, x.giveUp(head) >= 0 ? 1 : 0, 1);
+                }
+            }
+            DUE.is("10: giveUp(" + last + "), the last one", x.giveUp(last), LentSectors.NOT_POSSIBLE);
+            DUE.is("10: count(12)", x.count(12), 3);
+        }
     }
 
     private static void givesUpWhatIsLentToOthers() {

@@ -8,6 +8,7 @@ public final class HistoryTest {
         restoresAllOfTheState();
         recordsActsAlone();
         recordsNoFailedAct();
+        failedActsLeaveNothingBehind();
         keepsAndRestores();
         snapshotStaysBehindUndo();
         DUE.end();
@@ -135,6 +136,38 @@ public final class HistoryTest {
         DUE.is("13: count(12)", x.count(12), 1);
         DUE.is("13: undo()", x.undo(), 0);
         DUE.is("13: address(1, 0)", x.address(1, 0), 0);
+    }
+
+    /** What a call that failed had begun must not come up with the next act. */
+    private static void failedActsLeaveNothingBehind() {
+        LentSectors x = new LentSectors();
+        Calls.typeAll(x, "w1=10;r2;r12");
+        DUE.is("13: perform()", x.perform(), LentSectors.UNKNOWN);
+        DUE.is("13: setLimit(40)", x.setLimit(40), 30);
+        DUE.is("13: address(1, 0)", x.address(1, 0), 0);
+        DUE.is("13: wouldLose(1)", x.wouldLose(1), 0);
+        DUE.is("13: setHead(0, true, 5)", x.setHead(0, true, 5), 1);
+        DUE.is("13: head(1, 3)", x.head(1, 3), 0);
+        DUE.is("13: perform()", x.perform(), LentSectors.UNKNOWN);
+        DUE.is("13: read(3)", x.read(3), 0);
+        DUE.is("13: perform()", x.perform(), LentSectors.UNKNOWN);
+        DUE.is("13: write(4, 9)", x.write(4, 9), 4);
+        DUE.is("13: wouldLose(1)", x.wouldLose(1), 0);
+        DUE.is("13: copy(4, 5, 1)", x.copy(4, 5, 1), 1);
+        DUE.is("13: wouldLose(1)", x.wouldLose(1), 0);
+        DUE.is("13: test(0)", x.test(0), 0);
+        DUE.is("13: perform()", x.perform(), LentSectors.UNKNOWN);
+        DUE.is("13: giveUp(3)", x.giveUp(3), 0);
+        DUE.is("13: address(1, 0)", x.address(1, 0), 0);
+        DUE.is("13: head(1, 3)", x.head(1, 3), 0);
+        DUE.is("13: count(10)", x.count(10), 1 + 1 + 12);
+        DUE.is("13: count(11)", x.count(11), 2);
+        x.undo();
+        x.undo();
+        x.undo();
+        DUE.is("13: write(6, 1), behind undo()", x.write(6, 1), 6);
+        DUE.is("13: count(10)", x.count(10), 1);
+        DUE.is("13: count(11)", x.count(11), 2);
     }
 
     private static void keepsAndRestores() {

@@ -146,5 +146,10 @@ public final class SettingsTest {
         DUE.is("3: setHead(2, true, 5), given up", x.setHead(2, true, 5), 3);
         DUE.is("3: setHead(0, false, 3), a spare one worn", x.setHead(0, false, 3), LentSectors.NOT_POSSIBLE);
         DUE.is("3: head(0, 1)", x.head(0, 1), 4);
+
+        LentSectors y = new LentSectors();
+        y.read(11);
+        DUE.is("3: head(0, 7), the least wear", y.head(0, 7), 1);
+        DUE.is("3: setHead(0, false, 3)", y.setHead(0, false, 3), LentSectors.NOT_POSSIBLE);
     }
 }

@@ -310,6 +310,11 @@ public final class TellingTest {
         for (int what = 0; what < counts.length; what++) {
             DUE.is("22: count(" + what + ")", x.count(what), counts[what]);
         }
+        LentSectors y = Calls.withOneSpareEach();
+        y.setLimit(1);
+        y.read(0);
+        y.read(62);
+        DUE.is("22: count(3), the first and the last address", y.count(3), 2);
         DUE.is("22: giveUp(2)", x.giveUp(2), 3);
         int[] then = {4, 49, 3, 10, 0, 3, 0, counts[7], 2, 3, 1, 2, 4, 3};
         for (int what = 0; what < then.length; what++) {
