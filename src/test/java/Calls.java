@@ -28,6 +28,47 @@ final class Calls {
         return x;
     }
 
+    /** One that is much used: a full history, a snapshot, a text, a lent sector, wear. */
+    static LentSectors used() {
+        LentSectors x = new LentSectors();
+        x.setLimit(4);
+        x.write(20, 77);
+        x.keep();
+        x.setHead(2, false, 5);
+        x.write(0, 5);
+        x.write(1, 6);
+        typeAll(x, "w2=3;r2");
+        return x;
+    }
+
+    /** Head 3 is given up, and its addresses have all the spare sectors of the others: 12, 28, 44, 13, .. */
+    static LentSectors withNothingFree() {
+        LentSectors x = new LentSectors();
+        x.giveUp(3);
+        return x;
+    }
+
+    /** One spare sector each, worn out by address 0, which is lost then; the limit is 1. */
+    static LentSectors with0Lost() {
+        LentSectors x = withOneSpareEach();
+        x.setLimit(1);
+        for (int value = 1; value <= 5; value++) {
+            x.write(0, value);
+        }
+        return x;
+    }
+
+    /** One spare sector each, of which 15 alone is good, with a wear of 4; 17 is lost; the limit is 5. */
+    static LentSectors with17LostAnd15Free() {
+        LentSectors x = withOneSpareEach();
+        x.setLimit(1);
+        for (int value = 1; value <= 5; value++) {
+            x.write(17, value);
+        }
+        x.setLimit(5);
+        return x;
+    }
+
     /** All of the state that can be told by some 270 calls, but not how many are in the history. */
     static String state(LentSectors x) {
         StringBuilder told = new StringBuilder();
