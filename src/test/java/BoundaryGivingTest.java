@@ -11,12 +11,6 @@ public final class BoundaryGivingTest {
         DUE.end();
     }
 
-    private static LentSectors usedWithLimit(int limit) {
-        LentSectors x = Calls.used();
-        x.setLimit(limit);
-        return x;
-    }
-
     // "Returns the sector that was lent to it; UNKNOWN; NOT_POSSIBLE if one is lent to it, but either its own
     // sector is not good, or its head is given up; NONE if none is lent to it (a lost address has none)."
 
@@ -32,11 +26,11 @@ public final class BoundaryGivingTest {
     }
 
     static void promise09AnOwnSectorThatIsBadIsNotPossible() {
-        UNCHANGED.on(() -> usedWithLimit(2), LentSectors.NOT_POSSIBLE, "giveBack(20) with limit 2", x -> x.giveBack(20));
+        UNCHANGED.on(() -> Calls.usedWithLimit(2), LentSectors.NOT_POSSIBLE, "giveBack(20) with limit 2", x -> x.giveBack(20));
     }
 
     static void promise09AnOwnSectorBelowTheLimitIsPossible() {
-        DUE.is("giveBack(20) with limit 5", usedWithLimit(5).giveBack(20), 28);
+        DUE.is("giveBack(20) with limit 5", Calls.usedWithLimit(5).giveBack(20), 28);
     }
 
     static void promise09AnAddressOfAGivenUpHeadIsNotPossible() {
@@ -46,7 +40,7 @@ public final class BoundaryGivingTest {
 
     static void promise09AnAddressThatItsOwnSectorServesIsNone() {
         UNCHANGED.by(LentSectors.NONE, "giveBack(5)", x -> x.giveBack(5));
-        UNCHANGED.on(() -> usedWithLimit(1), LentSectors.NONE, "giveBack(0), own one bad", x -> x.giveBack(0));
+        UNCHANGED.on(() -> Calls.usedWithLimit(1), LentSectors.NONE, "giveBack(0), own one bad", x -> x.giveBack(0));
     }
 
     static void promise09ALostAddressIsNoneThoughItsOwnSectorIsBad() {
@@ -74,7 +68,7 @@ public final class BoundaryGivingTest {
     }
 
     static void promise09ItIsNoneASecondTime() {
-        LentSectors x = usedWithLimit(99);
+        LentSectors x = Calls.usedWithLimit(99);
         DUE.is("giveBack(20)", x.giveBack(20), 28);
         DUE.is("giveBack(20)", x.giveBack(20), LentSectors.NONE);
     }
@@ -83,7 +77,7 @@ public final class BoundaryGivingTest {
     // serves it again, the lent one is lent to none."
 
     static void promise09TheArmGoesTheLongWayAndBack() {
-        LentSectors x = usedWithLimit(99);
+        LentSectors x = Calls.usedWithLimit(99);
         int steps = x.count(7);
         x.giveBack(20);
         DUE.is("count(7), 5 to 20, 8 to 28, 8 back", x.count(7), steps + 5 + 8 + 8);
@@ -92,7 +86,7 @@ public final class BoundaryGivingTest {
     }
 
     static void promise09TheOwnSectorWearsAsByAWriteAndTheLentOneDoesNot() {
-        LentSectors x = usedWithLimit(99);
+        LentSectors x = Calls.usedWithLimit(99);
         x.giveBack(20);
         DUE.is("sector(20, 0)", x.sector(20, 0), 4 + 4);
         DUE.is("sector(28, 0)", x.sector(28, 0), 4);
@@ -101,7 +95,7 @@ public final class BoundaryGivingTest {
     }
 
     static void promise09TheOwnSectorServesAgainAndTheLentOneIsFree() {
-        LentSectors x = usedWithLimit(99);
+        LentSectors x = Calls.usedWithLimit(99);
         x.giveBack(20);
         DUE.is("address(20, 1)", x.address(20, 1), 20);
         DUE.is("address(20, 0)", x.address(20, 0), 77);
@@ -112,7 +106,7 @@ public final class BoundaryGivingTest {
     }
 
     static void promise09TheOwnSectorIsNotLookedAt() {
-        LentSectors x = usedWithLimit(5);
+        LentSectors x = Calls.usedWithLimit(5);
         x.giveBack(20);
         DUE.is("sector(20, 1)", x.sector(20, 1), 1);
         DUE.is("address(20, 1)", x.address(20, 1), 20);

@@ -163,8 +163,7 @@ public final class BoundaryReadingTest {
     }
 
     static void promise04ALentSectorIsNotFreeThoughItIsGood() {
-        LentSectors x = Calls.used();
-        x.setLimit(99);
+        LentSectors x = Calls.usedWithLimit(99);
         DUE.is("sector(28, 1)", x.sector(28, 1), 0);
         DUE.is("sector(28, 4)", x.sector(28, 4), 0);
         DUE.is("address(20, 3)", x.address(20, 3), 29);
@@ -180,8 +179,7 @@ public final class BoundaryReadingTest {
     }
 
     static void promise04AnOwnSectorThatServesNoneIsNotFree() {
-        LentSectors x = Calls.used();
-        x.setLimit(99);
+        LentSectors x = Calls.usedWithLimit(99);
         DUE.is("sector(20, 3)", x.sector(20, 3), LentSectors.NONE);
         DUE.is("sector(20, 4)", x.sector(20, 4), 0);
     }
@@ -287,8 +285,7 @@ public final class BoundaryReadingTest {
     // own sector first (unless its head is given up), and then to the one that serves it"
 
     static void promise04TheLongWayGoesByTheOwnSector() {
-        LentSectors x = Calls.used();
-        x.setLimit(99);
+        LentSectors x = Calls.usedWithLimit(99);
         int steps = x.count(7);
         DUE.is("count(5)", x.count(5), 1);
         DUE.is("count(6)", x.count(6), 0);

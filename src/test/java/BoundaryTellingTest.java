@@ -439,6 +439,7 @@ public final class BoundaryTellingTest {
     static void promise20TellingChangesNothing() {
         UNCHANGED.on(LentSectors::new, 0, "wouldLose(2)", x -> x.wouldLose(2));
         UNCHANGED.on(Calls::used, 0, "wouldLose(1)", x -> x.wouldLose(1));
+        UNCHANGED.on(() -> Calls.usedWithLimit(99), 0, "wouldLose(0)", x -> x.wouldLose(0));
         UNCHANGED.on(Calls::withNothingFree, 16, "wouldLose(0)", x -> x.wouldLose(0));
         UNCHANGED.on(Calls::withNothingFree, LentSectors.NONE, "wouldLose(3)", x -> x.wouldLose(3));
     }

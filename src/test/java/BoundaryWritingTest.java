@@ -191,8 +191,7 @@ public final class BoundaryWritingTest {
     }
 
     static void promise05ToAnAddressThatIsLentTheArmGoesTheLongWay() {
-        LentSectors x = Calls.used();
-        x.setLimit(99);
+        LentSectors x = Calls.usedWithLimit(99);
         int steps = x.count(7);
         DUE.is("write(20, 5)", x.write(20, 5), 28);
         DUE.is("count(7)", x.count(7), steps + 5 + 8);
@@ -467,8 +466,7 @@ public final class BoundaryWritingTest {
     }
 
     static void promise07SpareSectorsAreReadForTheirAddressesAlone() {
-        LentSectors x = Calls.used();
-        x.setLimit(99);
+        LentSectors x = Calls.usedWithLimit(99);
         DUE.is("test(1)", x.test(1), 0);
         DUE.is("count(10)", x.count(10), 12);
         DUE.is("sector(28, 0), lent to 20", x.sector(28, 0), 4 + 2);

@@ -41,6 +41,13 @@ final class Calls {
         return x;
     }
 
+    /** The same, in which 20 can be given back with a limit of 5 and more. */
+    static LentSectors usedWithLimit(int limit) {
+        LentSectors x = used();
+        x.setLimit(limit);
+        return x;
+    }
+
     /** Head 3 is given up, and its addresses have all the spare sectors of the others: 12, 28, 44, 13, .. */
     static LentSectors withNothingFree() {
         LentSectors x = new LentSectors();

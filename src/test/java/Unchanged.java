@@ -7,7 +7,7 @@ import java.util.function.ToIntFunction;
  * is used for 512 calls at most.
  */
 final class Unchanged {
-    private static final int VIEWS = 9;
+    private static final int VIEWS = 18;
 
     private final Due due;
 
@@ -29,15 +29,28 @@ final class Unchanged {
         }
     }
 
-    /** The state, the states of the history, the snapshot, the text. */
+    /** The state, the states of the history, the snapshot, the text, and what the next act makes of it. */
     private static String view(LentSectors x, int view) {
         switch (view) {
-            case 5: return x.restore() + "\n" + Calls.state(x);
-            case 6: return x.perform() + "\n" + Calls.state(x);
+            case 5: return then(x.restore(), x);
+            case 6: return then(x.perform(), x);
             case 7: return x.clearText() + " " + x.perform() + " " + x.type('r') + " " + x.perform();
             case 8: return served(x);
+            case 9: return then(x.setLimit(7), x);
+            case 10: return then(x.setHead(1, true, 7), x);
+            case 11: return then(x.setHead(3, false, 2), x);
+            case 12: return then(x.write(40, 3), x);
+            case 13: return then(x.copy(18, 33, 2), x);
+            case 14: return then(x.test(2), x);
+            case 15: return then(x.giveBack(20), x);
+            case 16: return then(x.giveUp(2), x);
+            case 17: return then(x.read(35), x);
             default: return undone(x, view);
         }
+    }
+
+    private static String then(int answer, LentSectors x) {
+        return answer + "\n" + x.count(12) + "\n" + Calls.state(x);
     }
 
     private static String undone(LentSectors x, int times) {
